@@ -30,7 +30,7 @@ public final class SaltMinds {
     private final History acts = new History();
     private final Court court = new Court();
     private final Diet diet = new Diet();
-    private final Rations rations = new Rations();
+    private final Rations shares = new Rations();
     private final Market market = new Market();
     private final int[] status = new int[3];
     private final int[] witnessed = new int[MOST_PEOPLE];
@@ -76,7 +76,7 @@ public final class SaltMinds {
         acts.kept = 0;
         court.seen = 0;
         diet.length = 0;
-        rations.kept = false;
+        shares.kept = false;
         imaged = false;
         return 0;
     }
@@ -318,19 +318,19 @@ public final class SaltMinds {
         for (int p = 0; p < tale.people; p++) {
             for (int x = 0; x <= MOST_GRAINS; x++) {
                 // Nobody can be given more than there is.
-                rations.worth[p][x] = x > g ? 0 : tale.weightOf(recalledAlone(p, x, n));
+                shares.worth[p][x] = x > g ? 0 : tale.weightOf(recalledAlone(p, x, n));
             }
         }
-        return rations.share(tale.people, g);
+        return shares.divide(tale.people, g);
     }
 
     /** Promise 21. */
     public int ration(int person) throws NoSuchElementException {
         needPerson(person);
-        if (!rations.kept) {
+        if (!shares.kept) {
             throw new NoSuchElementException("no rations are kept");
         }
-        return rations.given[person];
+        return shares.given[person];
     }
 
     /** Promise 22. */
@@ -1693,9 +1693,8 @@ public final class SaltMinds {
         final int[] given = new int[MOST_PEOPLE];
         boolean kept;
 
-        int share(int people, int g) {
+        int divide(int people, int g) {
             for (int r = 0; r <= MOST_RATIONS; r++) {
-                most[MOST_PEOPLE][r] = NONE;
                 most[people][r] = r == 0 ? 0 : NONE;
             }
             for (int p = people - 1; p >= 0; p--) {

@@ -53,6 +53,9 @@ public final class AheadTest {
         c.noSuch("blank(1, 2)", () -> x.blank(1, 2));
         c.noSuch("blank(101, 2)", () -> x.blank(101, 2));
         c.noSuch("blank(1, -1)", () -> x.blank(1, -1));
+        SaltMinds y = Checks.told("person 40 0;fact 0 1 0;keeps 2*(day=0);");
+        c.due("fact 0 behind 3", y.blank(3, 0), 3);
+        c.due("fact 0", y.blank(3, 1), 0);
         c.illegal("blank(101, 0)", () -> x.blank(101, 0));
         c.illegal("blank(-1, 1)", () -> x.blank(-1, 1));
     }
@@ -132,6 +135,10 @@ public final class AheadTest {
         c.due("2 days: 6 are too few", z.cheapest(0, 1, 2), NONE);
         c.due("what is kept stays", z.row(0), 0);
         c.noSuch("what is kept stays", () -> z.row(1));
+        SaltMinds six = Checks.told("person 900 0;fact 0 1 0;keeps (day=0)*2+salt/6;");
+        six.days(1);
+        c.due("2 days: 6 are enough", six.cheapest(0, 1, 2), 30);
+        c.due("row", six.row(0) * 10 + six.row(1), 6);
         // The purse is not asked: none is paid.
         SaltMinds w = Checks.told("person 0 0;fact 0 1 0;keeps (day=0)+(0<day)*salt*2;");
         w.days(1);
@@ -166,6 +173,8 @@ public final class AheadTest {
         // Behind n days UNTIL must be 1 + n: weight 4 needs n grains, 3 needs ceil(4n/3), 1 needs 4n.
         c.due("0 grains", x.rations(0, 1), 0);
         c.due("row", x.ration(0) + x.ration(1) + x.ration(2), 0);
+        c.due("1 grain, 1 day", x.rations(1, 1), 4);
+        c.due("row: the last one", x.ration(0) * 100 + x.ration(1) * 10 + x.ration(2), 1);
         c.due("2 grains, 2 days", x.rations(2, 2), 4);
         c.due("row: the last one first", x.ration(0) * 100 + x.ration(1) * 10 + x.ration(2), 2);
         c.due("3 grains, 2 days", x.rations(3, 2), 7);

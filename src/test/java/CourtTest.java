@@ -82,6 +82,11 @@ public final class CourtTest {
         c.due("22: 10 + 10 + 2", x.corner(22), 3);
         c.due("10: more than 50", x.corner(10), 51);
         c.due("9: none", x.corner(9), NONE);
+        SaltMinds y = Checks.told("person 99 0;person 98 0;");
+        c.due("by 99 the first buys one", y.corner(1), 99);
+        c.due("none", y.corner(0), NONE);
+        SaltMinds z = Checks.told("person 98 0;person 98 0;");
+        c.due("by 99", z.corner(0), 99);
         c.illegal("61", () -> x.corner(61));
         c.illegal("-1", () -> x.corner(-1));
     }

@@ -275,7 +275,10 @@ public final class DaysTest {
         c.due("undo", x.undo(), 0);
         c.due("grains", x.person(0, 2), 0);
         x.forget();
+        x.see(1, 0, true);
+        c.due("blamed", x.blamed(), 2);
         c.due("restore again", x.restore(), true);
+        c.due("blamed", x.blamed(), 0);
         c.due("seen", x.count(7), 1);
         c.due("acts", x.count(6), 2);
         x.days(1);

@@ -76,6 +76,9 @@ public final class TextTest {
         for (int i = 0; i < 9; i++) {
             x.see(1, 0, true);
         }
+        c.due("status 1", x.count(10), 1);
+        c.due("status 2", x.count(11), 2);
+        c.due("status 0", x.count(9), 0);
         c.due("a text with a fault", Checks.saltText(x, "person 1 1;oh;"), 1);
         c.due("people stay", x.count(0), 2);
         c.due("today stays", x.count(4), 2);
@@ -117,6 +120,9 @@ public final class TextTest {
         c.fault("  ;", 1, 2);
         c.fault("5", 1, 0);
         c.fault("persons 5 0;", 1, 0);
+        c.fault("perso 5 0;", 1, 0);
+        c.fault("aerson 5 0;", 1, 0);
+        c.fault("persom 5 0;", 1, 0);
         c.fault("Person 5 0;", 1, 0);
         c.fault("person\t5 0;", 1, 6);
         c.fault("person 5 0\r;", 1, 10);
@@ -247,6 +253,13 @@ public final class TextTest {
         c.fault("keeps not;", 1, 9);
         c.fault("keeps salt+weight+age+told+facts+table+day;", 0, NONE);
         c.fault("keeps salts;", 3, 6);
+        c.fault("keeps malt;", 3, 6);
+        c.fault("keeps a;", 3, 6);
+        c.fault("keeps z;", 3, 6);
+        c.fault("keeps saltz;", 3, 6);
+        c.fault("keeps `;", 1, 6);
+        c.fault("keeps {;", 1, 6);
+        c.fault("keeps :;", 1, 6);
         c.fault("keeps (((((1)))));", 0, NONE);
         c.fault("keeps ((((((1))))));", 2, 12);
         c.fault("keeps ((((((pepper", 2, 12);
