@@ -8,14 +8,44 @@ import java.util.TreeSet;
 /** The public face is the document's, and nothing more. */
 public final class FaceTest {
     private static final String[] FACE = {
-        "int feed(int,int,int,int,int)", "int salt(int)", "int fault()", "int count(int)", "int person(int,int)",
-        "int fact(int,int)", "int until(int,int)", "int grains(int,int)", "int sit(int,int)", "boolean tell(int,int,int)",
-        "int days(int)", "int undo()", "int ahead(int,int)", "int blank(int,int)", "int enough(int,int,int)",
-        "int cheapest(int,int,int)", "int row(int)", "int witnesses(int,int,int)", "int rations(int,int)", "int ration(int)",
-        "int steps(int,int)", "int teller(int)", "int gathering(int)", "boolean holds(int)", "int owed(int)",
-        "int profits(int)", "int see(int,int,boolean)", "void forget()", "int ate(int,int)", "int blamed()",
-        "int merchants(int)", "int corner(int)", "int season(int,int,int)", "int feast(int)", "int sick(int,int)",
-        "int spent(int)", "void image()", "boolean restore()",
+        "int feed(int,int,int,int,int)",
+        "int salt(int) throws IllegalArgumentException",
+        "int fault()",
+        "int count(int) throws NoSuchElementException",
+        "int person(int,int) throws NoSuchElementException",
+        "int fact(int,int) throws NoSuchElementException",
+        "int until(int,int) throws NoSuchElementException",
+        "int grains(int,int) throws NoSuchElementException",
+        "int sit(int,int) throws NoSuchElementException",
+        "boolean tell(int,int,int) throws NoSuchElementException",
+        "int days(int)",
+        "int undo()",
+        "int ahead(int,int) throws NoSuchElementException,IllegalArgumentException",
+        "int blank(int,int) throws NoSuchElementException,IllegalArgumentException",
+        "int enough(int,int,int) throws NoSuchElementException,IllegalArgumentException",
+        "int cheapest(int,int,int) throws NoSuchElementException,IllegalArgumentException",
+        "int row(int) throws NoSuchElementException",
+        "int witnesses(int,int,int) throws IllegalArgumentException",
+        "int rations(int,int) throws IllegalArgumentException",
+        "int ration(int) throws NoSuchElementException",
+        "int steps(int,int) throws NoSuchElementException",
+        "int teller(int) throws NoSuchElementException",
+        "int gathering(int) throws NoSuchElementException",
+        "boolean holds(int) throws NoSuchElementException",
+        "int owed(int) throws NoSuchElementException",
+        "int profits(int) throws IllegalArgumentException",
+        "int see(int,int,boolean) throws NoSuchElementException",
+        "void forget()",
+        "int ate(int,int) throws NoSuchElementException",
+        "int blamed()",
+        "int merchants(int) throws NoSuchElementException",
+        "int corner(int) throws IllegalArgumentException",
+        "int season(int,int,int) throws NoSuchElementException,IllegalArgumentException",
+        "int feast(int) throws IllegalArgumentException",
+        "int sick(int,int) throws NoSuchElementException,IllegalArgumentException",
+        "int spent(int) throws IllegalArgumentException",
+        "void image()",
+        "boolean restore()",
     };
 
     private static String signature(Method m) {
@@ -23,7 +53,11 @@ public final class FaceTest {
         for (int i = 0; i < m.getParameterCount(); i++) {
             b.append(i == 0 ? "" : ",").append(m.getParameterTypes()[i].getName());
         }
-        return b.append(')').toString();
+        b.append(')');
+        for (int i = 0; i < m.getExceptionTypes().length; i++) {
+            b.append(i == 0 ? " throws " : ",").append(m.getExceptionTypes()[i].getSimpleName());
+        }
+        return b.toString();
     }
 
     public static void main(String[] args) {

@@ -25,6 +25,8 @@ public final class ModelTest {
     private final Random random;
     private final SaltMinds x = new SaltMinds();
     private final Model m = new Model();
+    /** An object is used for at most 512 calls; what later ones answer is free. */
+    private int calls = 0;
 
     private ModelTest(int run) {
         this.run = run;
@@ -111,6 +113,7 @@ public final class ModelTest {
             for (int i = 0; i < 20; i++) {
                 words[i / 4] = words[i / 4] << 8 | (at + i < text.length() ? text.charAt(at + i) & 255 : ' ');
             }
+            calls++;
             c.due("run " + run + " feed", x.feed(words[0], words[1], words[2], words[3], words[4]), m.feed(words));
         }
     }
@@ -120,6 +123,10 @@ public final class ModelTest {
         int n = Math.min(text.length(), m.tape.length());
         c.due("run " + run + " salt of " + text, x.salt(n), m.salt(n));
         c.due("run " + run + " fault of " + text, x.fault(), m.fault());
+        calls += 2;
+        if (calls > 512) {
+            throw new IllegalStateException("run " + run + " has more than 512 calls");
+        }
     }
 
     private void readTexts() {
@@ -135,7 +142,7 @@ public final class ModelTest {
 
     private void play() {
         saltBoth(say());
-        for (int call = 0; call < 300; call++) {
+        for (int call = 0; call < 400 && calls < 440; call++) {
             int which = up(4) == 0 ? 7 + up(4) : 3 + up(35);
             // These would take long, or take too much away, if they came as often as the others.
             if (which == 15 && up(4) != 0 || which == 37 && up(3) != 0 || which == 27 && up(3) != 0) {
@@ -241,6 +248,7 @@ public final class ModelTest {
     }
 
     private long program(int which, int a, int b, int d, boolean e) {
+        calls++;
         switch (which) {
             case 3: return x.count(a);
             case 4: return x.person(a, b);
