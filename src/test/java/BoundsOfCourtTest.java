@@ -148,6 +148,8 @@ public final class BoundsOfCourtTest {
         // By 3 and by 4 it is 2, by 5 it is 3: (3, 4) too.
         rests("6", 4, 22);
         rests("9999 9999 9999 9999 9999 9999", 3, 22);
+        // By 3 it is 6, by 8 it is 6 too, by 9 it is 7: (2, 2), (3, 2), and 3 with all of 3 to 8, but not with 9.
+        rests("9 3 3 3", 8, 22);
         c.about("merchants: NoSuchElementException: another what");
         SaltMinds x = Checks.told("person 9 0;");
         c.noSuchOf("merchants", what -> x.merchants(what), -1, 2);
@@ -284,14 +286,16 @@ public final class BoundsOfCourtTest {
         c.due("he recalls nothing at the end", y.season(3, 60, 1), 0);
         // By seeds, whole seasons against the same DAYS one by one; an object is used for at most 512 calls.
         String text = "person 90 0;person 50 1;person 70 1;fact 0 3 0;fact 1 4 1 2;fact 6 6 0 1;talk 0 1;talk 2 1;price 3 2;";
+        String silent = text.replace("talk 0 1;talk 2 1;", "");
         for (int seed : new int[] {0, 1, -1, 77, Checks.GREATEST, Checks.LEAST, 123456789}) {
             for (int n : new int[] {0, 1, 2, 5, 17, 35, 60}) {
-                againstDays(text, seed, n);
+                againstDays(text, true, seed, n);
+                againstDays(silent, false, seed, n);
             }
         }
     }
 
-    private static void againstDays(String text, int seed, int n) {
+    private static void againstDays(String text, boolean talks, int seed, int n) {
         SaltMinds x = Checks.told(text);
         SaltMinds y = Checks.told(text);
         int s = seed;
@@ -301,11 +305,13 @@ public final class BoundsOfCourtTest {
             int who = draw(s, 3);
             s = nextSeed(s);
             y.grains(who, draw(s, 6));
-            s = nextSeed(s);
-            int one = draw(s, 2) == 0 ? 0 : 2;
-            for (int f = 0; f < 3; f++) {
-                if (!y.tell(f, one, 1)) {
-                    y.tell(f, 1, one);
+            if (talks) {
+                s = nextSeed(s);
+                int one = draw(s, 2) == 0 ? 0 : 2;
+                for (int f = 0; f < 3; f++) {
+                    if (!y.tell(f, one, 1)) {
+                        y.tell(f, 1, one);
+                    }
                 }
             }
             lost += y.days(1);

@@ -13,6 +13,7 @@ public final class BoundsOfDaysTest {
         untilAsItWas();
         midnight();
         telling();
+        toldUntil();
         refusedTelling();
         sitting();
         daysMany();
@@ -25,8 +26,11 @@ public final class BoundsOfDaysTest {
         debtsOfOthers();
         until();
         image();
+        imageOfActs();
+        imageOfSeen();
         restoreWithout();
         farDays();
+        lastCall();
         twoObjects();
         c.end();
     }
@@ -258,6 +262,22 @@ public final class BoundsOfDaysTest {
         c.due("until", y.until(1, 0), -2 - 10);
         c.due("until", y.until(2, 0), -2 - 10);
         c.due("who learned it isn't told", y.until(0, 0), 10);
+    }
+
+    private static void toldUntil() {
+        c.about("each FACT is forgotten that one has UNTIL a DAY ahead of TODAY (one that was told too)");
+        SaltMinds x = Checks.told("person 0 0;person 0 0;fact 0 1 0;keeps 9*(told=0)+told*(3*(day=1)+(day=3));");
+        x.days(1);
+        x.tell(0, 0, 1);
+        c.due("kept for 3", x.days(1), 0);
+        c.due("until", x.until(1, 0), -2 - 4);
+        c.due("kept for none", x.days(1), 0);
+        c.due("until as it was", x.until(1, 0), -2 - 4);
+        c.due("kept for 1: no later than it was", x.days(1), 0);
+        c.due("today", x.count(4), 4);
+        c.due("until as it was", x.until(1, 0), -2 - 4);
+        c.due("forgotten at midnight to 5", x.days(1), 1);
+        c.due("until", x.until(1, 0), NONE);
     }
 
     private static void refusedTelling() {
@@ -532,6 +552,56 @@ public final class BoundsOfDaysTest {
         c.due("seen", x.count(7), 0);
     }
 
+    private static void imageOfActs() {
+        c.about("image: .. ACTS .. are kept (all 40 of them)");
+        SaltMinds x = Checks.told("person 99 0;fact 0 1 0;price 0 1;keeps 99;");
+        for (int i = 1; i <= 20; i++) {
+            x.grains(0, i);
+            x.days(1);
+        }
+        x.image();
+        int purse = x.person(0, 0);
+        for (int i = 0; i < 40; i++) {
+            x.undo();
+        }
+        for (int i = 0; i < 40; i++) {
+            x.sit(0, i % 4);
+        }
+        c.due("restore", x.restore(), true);
+        c.due("purse", x.person(0, 0), purse);
+        for (int i = 20; i >= 1; i--) {
+            c.due("undo the day", x.undo(), 2 * i - 1);
+            c.due("today", x.count(4), i - 1);
+            c.due("until", x.until(0, 0), i == 1 ? NONE : 97 + i);
+            c.due("undo the grains", x.undo(), 2 * i - 2);
+            c.due("grains", x.person(0, 2), i - 1);
+            c.due("table", x.person(0, 1), 0);
+        }
+        c.due("purse", x.person(0, 0), 99);
+    }
+
+    private static void imageOfSeen() {
+        c.about("image: .. what is SEEN are kept");
+        SaltMinds x = Checks.told("person 0 0;person 0 0;person 0 0;fact 0 5 0 1 2;fact 0 9 0 1 2;keeps (day=0)+(0<day)*(weight-1<salt);");
+        x.days(1);
+        x.see(0, 0, true);
+        x.see(1, 1, false);
+        x.see(2, 1, true);
+        x.image();
+        x.forget();
+        x.see(2, 0, false);
+        x.see(0, 1, true);
+        x.see(1, 0, true);
+        c.due("9 to 20", x.ate(0, 0), 12);
+        c.due("5 to 20", x.ate(1, 0), 16);
+        c.due("0 to 4", x.ate(2, 0), 5);
+        c.due("restore", x.restore(), true);
+        c.due("5 to 20", x.ate(0, 0), 16);
+        c.due("0 to 8", x.ate(1, 0), 9);
+        c.due("9 to 20", x.ate(2, 0), 12);
+        c.due("seen", x.count(7), 3);
+    }
+
     private static void restoreWithout() {
         c.about("restore: False: there is none");
         SaltMinds x = new SaltMinds();
@@ -557,7 +627,7 @@ public final class BoundsOfDaysTest {
     }
 
     private static void farDays() {
-        c.about("TODAY is the number of DAYS that there were (an object is used for at most 512 calls)");
+        c.about("TODAY is the number of DAYS that there were");
         SaltMinds x = Checks.told("person 9999 0;person 0 1;fact 0 9 0;price 0 0;keeps 99*(told=0);");
         for (int i = 1; i <= 450; i++) {
             x.days(100);
@@ -568,6 +638,16 @@ public final class BoundsOfDaysTest {
         c.due("told", x.until(1, 0), -45002);
         c.due("ahead", x.ahead(0, 100), 1);
         c.due("forgotten", x.days(1), 1);
+    }
+
+    private static void lastCall() {
+        c.about("An object is used for at most 512 calls after it has been made");
+        // Two calls feed the text, the third reads it.
+        SaltMinds x = Checks.told("person 9 0;fact 0 1 0;keeps 99;");
+        for (int call = 4; call <= 511; call++) {
+            x.days(100);
+        }
+        c.due("the 512th", x.until(0, 0), 508 * 100 - 1 + 99);
     }
 
     private static void twoObjects() {

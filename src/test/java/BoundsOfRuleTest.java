@@ -158,6 +158,12 @@ public final class BoundsOfRuleTest {
             c.fault("keeps " + "not ".repeat(many) + "1;", 0, NONE);
             gives("not ".repeat(many) + "7", many == 0 ? "7" : many % 2 == 0 ? "1" : "0");
         }
+        // At the rule's very beginning too.
+        for (int many = 0; many <= 6; many++) {
+            SaltMinds x = Checks.told("person 9 0;fact 0 7 0;keeps " + "not ".repeat(many) + "day;");
+            x.days(1);
+            c.due("recalled by " + many + " 'not' of 0", x.fact(0, 3), many % 2);
+        }
         c.fault("keeps " + "not ".repeat(7) + "1;", 2, 30);
         c.fault("keeps " + "not ".repeat(7), 2, 30);
         c.fault("keeps " + "not ".repeat(9) + "1;", 2, 30);

@@ -34,6 +34,8 @@ public final class BoundsOfTextTest {
         saltRefused();
         saltWithFault();
         saltAnew();
+        saltBehindFault();
+        saltBehindMore();
         faultPlace();
         countWhat();
         c.end();
@@ -545,6 +547,79 @@ public final class BoundsOfTextTest {
         c.due("who recalls it", x.fact(0, 3), 0);
         c.due("no text at all", x.salt(0), 0);
         c.due("nobody", x.count(0), 0);
+    }
+
+    private static void saltBehindFault() {
+        c.about("salt: a TEXT behind one with a FAULT is read from its beginning on");
+        String[] faulty = {"keeps (((((1", "keeps ((((((", "keeps not not not not not not pepper", "keeps 1 or 1 and not 1<1+1*", "keeps 1<", "keeps 1<2<",
+            "keeps 1;keeps", "person 5 0;fact 0 1 0 debt", "person 5 0;fact 0 1 0 0", "price 0 1;price 0", "person 5 0;person 5 0;talk 0 1;talk 0", "12345",
+            "person 5 0;".repeat(7), "person 5 0;" + "fact 0 1 0;".repeat(11)};
+        String good = "person 5 0;person 6 0;fact 0 1 1;talk 1 0;price 0 3;keeps (not not not not not not((((salt<1+2*3))))and 2)*4;";
+        SaltMinds x = new SaltMinds();
+        for (int i = 0; i < 20; i++) {
+            c.due("a fault", Checks.saltText(x, "keeps (((((1"), 1);
+        }
+        for (String text : faulty) {
+            c.due("a fault in " + text, Checks.saltText(x, text) != 0, true);
+            c.due("none behind " + text, Checks.saltText(x, good), 0);
+            c.due("fault", x.fault(), NONE);
+            x.days(1);
+            c.due("until by the rule behind " + text, x.until(1, 0), 4);
+            c.due("people, facts, talks, prices", x.count(0) * 1000 + x.count(1) * 100 + x.count(2) * 10 + x.count(3), 2111);
+        }
+        Checks.saltText(x, "keeps not not not not not not pepper;");
+        c.due("six 'not' behind six", Checks.saltText(x, "keeps not not not not not not 1;"), 0);
+        Checks.saltText(x, "keeps (((((1;");
+        c.due("five parentheses behind five", Checks.saltText(x, "keeps (((((1)))));"), 0);
+    }
+
+    /** Most of the calls, one behind the other, with what they answer. */
+    private static String answersOf(SaltMinds x) {
+        StringBuilder b = new StringBuilder(Checks.stateOf(x).replaceFirst(" \\d+ \\d+ \\d+ (\\d+) fault", " $1 fault"));
+        for (int day = 0; day < 3; day++) {
+            b.append(" days ").append(x.grains(day % 2, 2)).append(' ').append(x.days(1)).append(' ').append(x.tell(0, 0, 1));
+            for (int f = 0; f < x.count(1); f++) {
+                for (int what = 0; what <= 6; what++) {
+                    b.append(' ').append(x.fact(f, what));
+                }
+                b.append(" of ").append(f).append(": ").append(x.teller(f)).append(' ').append(x.holds(f)).append(' ').append(x.ahead(f, 9));
+                b.append(' ').append(x.steps(f, 0)).append(' ').append(x.steps(f, 1));
+            }
+            for (int n : new int[] {1, 5}) {
+                b.append(" in ").append(n).append(": ").append(x.blank(n, 0)).append(' ').append(x.blank(n, 1)).append(' ').append(x.profits(n));
+                b.append(' ').append(x.witnesses(1, 9, n)).append(' ').append(x.rations(9, n)).append(' ').append(x.ration(0)).append(' ').append(x.ration(1));
+                b.append(' ').append(x.season(9, n, NONE)).append(' ').append(x.season(9, n, 1)).append(' ').append(x.sick(0, n));
+                b.append(' ').append(x.spent(n)).append(' ').append(x.cheapest(1, 0, n)).append(' ').append(x.enough(0, 0, n));
+            }
+            for (int table = 0; table <= 3; table++) {
+                b.append(' ').append(x.gathering(table));
+            }
+            b.append(' ').append(x.merchants(0)).append(' ').append(x.merchants(1)).append(' ').append(x.corner(0)).append(' ').append(x.corner(12));
+            b.append(' ').append(x.feast(4)).append(' ').append(x.feast(40)).append(' ').append(x.blamed()).append(' ').append(x.owed(0));
+            b.append(' ').append(x.count(5)).append(' ').append(x.count(12));
+        }
+        return b.toString();
+    }
+
+    private static void saltBehindMore() {
+        c.about("salt: all anew (nothing is left of TEXTS that told more)");
+        String much = "person 9999 0;".repeat(6) + "fact 0 9 0 1 2 3 4 5 debt 0 1 99;".repeat(10) + talksOf(10) + pricesOf(8) + "keeps 50+salt;";
+        String[] few = {"person 7 0;person 9 1;fact 0 2 0;", "person 7 0;person 9 0;fact 0 2 1;fact 1 3 0 debt 0 1 5;talk 0 1;price 1 2;keeps salt+1;"};
+        for (String text : few) {
+            String due = answersOf(Checks.told(text));
+            SaltMinds x = new SaltMinds();
+            for (int i = 0; i < 2; i++) {
+                Checks.saltText(x, much);
+                x.days(2);
+                x.rations(30, 1);
+                x.cheapest(5, 1023, 5);
+                x.merchants(0);
+                x.season(5, 5, 5);
+                x.see(5, 9, false);
+            }
+            c.due("salt", Checks.saltText(x, text), 0);
+            c.same("behind more", answersOf(x), due);
+        }
     }
 
     private static void faultPlace() {
