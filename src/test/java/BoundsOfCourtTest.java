@@ -286,16 +286,21 @@ public final class BoundsOfCourtTest {
         c.due("he recalls nothing at the end", y.season(3, 60, 1), 0);
         // By seeds, whole seasons against the same DAYS one by one; an object is used for at most 512 calls.
         String text = "person 90 0;person 50 1;person 70 1;fact 0 3 0;fact 1 4 1 2;fact 6 6 0 1;talk 0 1;talk 2 1;price 3 2;";
+        String ten = "person 90 0;person 50 1;person 70 1;" + "fact 0 3 0;fact 0 3 2;fact 1 3 1;".repeat(3) + "fact 0 3 0;talk 0 1;talk 2 1;";
         String silent = text.replace("talk 0 1;talk 2 1;", "");
         for (int seed : new int[] {0, 1, -1, 77, Checks.GREATEST, Checks.LEAST, 123456789}) {
             for (int n : new int[] {0, 1, 2, 5, 17, 35, 60}) {
-                againstDays(text, true, seed, n);
-                againstDays(silent, false, seed, n);
+                againstDays(text, 3, true, seed, n);
+                againstDays(silent, 3, false, seed, n);
+            }
+            // As many FACTS as can be, for as many DAYS as 512 calls are enough for.
+            for (int n : new int[] {1, 2, 3, 4, 12, 18}) {
+                againstDays(ten, 10, true, seed, n);
             }
         }
     }
 
-    private static void againstDays(String text, boolean talks, int seed, int n) {
+    private static void againstDays(String text, int facts, boolean talks, int seed, int n) {
         SaltMinds x = Checks.told(text);
         SaltMinds y = Checks.told(text);
         int s = seed;
@@ -308,7 +313,7 @@ public final class BoundsOfCourtTest {
             if (talks) {
                 s = nextSeed(s);
                 int one = draw(s, 2) == 0 ? 0 : 2;
-                for (int f = 0; f < 3; f++) {
+                for (int f = 0; f < facts; f++) {
                     if (!y.tell(f, one, 1)) {
                         y.tell(f, 1, one);
                     }

@@ -89,6 +89,11 @@ public final class BoundsOfTalkTest {
         c.due("ten ahead of fourteen", x.teller(2), 4);
         c.due("like ones: the least", x.teller(3), 1);
         c.due("1 2 2 3 4 ahead of 1 2 3 4 4", x.teller(4), 1);
+        // The same, 0 and 1 being those in the middle: 1 1 2 2 2 from 0, 1 1 1 2 3 from 1.
+        SaltMinds y = Checks.told("person 0 0;".repeat(6) + "fact 0 1 0 1;fact 0 1 1 2;talk 0 1;talk 1 2;talk 1 3;talk 0 4;talk 4 5;keeps 9;");
+        y.days(1);
+        c.due("like ones in all, though fewer are near: the least", y.teller(0), 0);
+        c.due("eight ahead of eleven", y.teller(1), 1);
     }
 
     private static void gathering() {

@@ -587,7 +587,7 @@ public final class BoundsOfTextTest {
             }
             for (int n : new int[] {1, 5}) {
                 b.append(" in ").append(n).append(": ").append(x.blank(n, 0)).append(' ').append(x.blank(n, 1)).append(' ').append(x.profits(n));
-                b.append(' ').append(x.witnesses(1, 9, n)).append(' ').append(x.rations(9, n)).append(' ').append(x.ration(0)).append(' ').append(x.ration(1));
+                b.append(' ').append(x.witnesses(1, 9, n)).append(' ').append(x.rations(n == 1 ? 30 : 9, n)).append(' ').append(x.ration(0)).append(' ').append(x.ration(1));
                 b.append(' ').append(x.season(9, n, NONE)).append(' ').append(x.season(9, n, 1)).append(' ').append(x.sick(0, n));
                 b.append(' ').append(x.spent(n)).append(' ').append(x.cheapest(1, 0, n)).append(' ').append(x.enough(0, 0, n));
             }
@@ -603,7 +603,7 @@ public final class BoundsOfTextTest {
 
     private static void saltBehindMore() {
         c.about("salt: all anew (nothing is left of TEXTS that told more)");
-        String much = "person 9999 0;".repeat(6) + "fact 0 9 0 1 2 3 4 5 debt 0 1 99;".repeat(10) + talksOf(10) + pricesOf(8) + "keeps 50+salt;";
+        String much = "person 9999 0;".repeat(6) + "fact 0 9 0 1 2 3 4 5 debt 0 1 99;".repeat(10) + talksOf(10) + pricesOf(8) + "keeps 50+salt*(not not not 0);";
         String[] few = {"person 7 0;person 9 1;fact 0 2 0;", "person 7 0;person 9 0;fact 0 2 1;fact 1 3 0 debt 0 1 5;talk 0 1;price 1 2;keeps salt+1;"};
         for (String text : few) {
             String due = answersOf(Checks.told(text));
