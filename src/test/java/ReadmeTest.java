@@ -34,7 +34,7 @@ public final class ReadmeTest {
             }
         }
         c.same("the text that is fed", bytes.toString(), quoted.toString());
-        c.due("README.md shows calls", shown.size() > 30, true);
+        c.due("calls of the face that README.md shows", shown.size(), 38);
         c.end();
     }
 
